@@ -39,7 +39,8 @@ public final class LowForge {
 
     // Rows of what is read are as long as the text: each type, field, step, part of a path and
     // node has a letter of its own there (a ? has four for its three steps).
-    // The first nodes are the ground signals themselves, so that a signal's number is a node too.
+    // Numbers of nodes begin behind those of the signals and NOTHING, so that one number tells
+    // what a sink is; numbers of choices go on behind them.
     private static final int NOTHING = SIGNALS;
     private static final int FIRST_NODE = SIGNALS + 1;
     private static final int NODES = FIRST_NODE + LETTERS;
@@ -247,12 +248,11 @@ public final class LowForge {
         return (1 << width) - 1;
     }
 
-    /** The tokens of a text, and an end behind them. What is no token is BAD, and fits nowhere. */
+    /** The tokens of a text and an end behind them. A number too great is BAD and fits nowhere. */
     private static final class Tokens {
         final int[] kind = new int[LETTERS + 1];
         final int[] at = new int[LETTERS + 1];
         final int[] number = new int[LETTERS + 1];
-
         private int used;
 
         void scan(char[] letters, int length) {
@@ -462,17 +462,6 @@ public final class LowForge {
         final int[] held = new int[NODES];
         int used;
 
-        Nodes() {
-            for (int i = 0; i < SIGNALS; i++) {
-                op[i] = SIGNAL;
-                left[i] = i;
-                first[i] = i;
-            }
-            op[NOTHING] = NUMBER;
-            first[NOTHING] = NOTHING;
-            used = FIRST_NODE;
-        }
-
         void empty() {
             used = FIRST_NODE;
         }
@@ -565,7 +554,7 @@ public final class LowForge {
         }
 
         int evaluate(int root, int[] now) {
-            // Numbers of signals are nodes that are not measured, and need no work.
+            // Below the nodes that are read, a number is that of a signal.
             if (root < SIGNALS) {
                 return now[root];
             }
@@ -855,7 +844,7 @@ public final class LowForge {
                 if (field == NONE) {
                     return NONE;
                 }
-                if (first == NONE) {
+                if (last == NONE) {
                     first = field;
                 } else {
                     types.nextField[last] = field;
@@ -926,10 +915,8 @@ public final class LowForge {
             if (name == NONE) {
                 return NONE;
             }
-            for (int i = 0; i <= REF_PARTS && (kind() == '.' || kind() == '['); i++) {
-                if (i == REF_PARTS) {
-                    return fail();
-                }
+            // A seventh part is left there: a . or [ fits nowhere behind a reference.
+            for (int i = 0; i < REF_PARTS && (kind() == '.' || kind() == '['); i++) {
                 boolean isPlace = kind() == '[';
                 next++;
                 int part = isPlace ? number(0, 65535) : name();

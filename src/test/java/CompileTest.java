@@ -54,6 +54,16 @@ public final class CompileTest {
         due.same("no activity", forge.activity(0), 0.0);
         due.same("clocks", forge.clock(1), 1);
         due.same("before the first clock they were 0", forge.activity(0), 0.0);
+        for (int i = 0; i < 4; i++) {
+            forge.set(0, 7);
+            forge.clock(2);
+            forge.compile();
+            due.same("inputs are 0", forge.value(0), 0);
+            due.same("registers are 0", forge.value(1), 0);
+            due.same("clocks", forge.clock(1), 1);
+            due.same("0 as before the first clock", forge.activity(0), 0.0);
+            due.same("nothing of it is left", forge.activity(1), 0.0);
+        }
     }
 
     private static void keepsTheOldCircuit(Due due) {

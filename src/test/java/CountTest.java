@@ -16,6 +16,7 @@ public final class CountTest {
         forge.text('x');
         counts(due, forge, 16, 24, 0, 0, 0, 24);
         counts(due, due.compiled("Wa:U1;a<=1;a<=0;a<=1;"), 21, 1, 1, 0, 3, 1);
+        counts(due, due.compiled("Ra:U3;Rb:U2;"), 12, 2, 2, 2, 0, 5);
         for (int what : new int[] {-1, 6, Integer.MIN_VALUE, Integer.MAX_VALUE}) {
             due.thrown("count(" + what + ")", IllegalArgumentException.class,
                     () -> forge.count(what));

@@ -26,6 +26,10 @@ public final class DependsTest {
         needs(due, in + "d<=1;?a{d<=1;}:{d<=1;}", 0, 0, 0, 1);
         needs(due, in + "?a{?b{d<=1;}:{d<=0;}}:{d<=c;}", 0, 0, 0, 7);
         needs(due, in + "?a{d<=1;}:{?b{d<=1;}:{d<=0;}}", 0, 0, 0, 3);
+        needs(due, "Wa:U1;Ib:U1;a<=1;?b{}", 0, 0);
+        needs(due, "Wa:U1;Ib:U1;a<=1;?b{a<=0;}", 2, 0);
+        needs(due, "Wa:U1;Wb:U1;Ic:U1;Id:U1;a<=0;b<=0;?c{a<=1;?d{b<=1;}}", 4, 12, 0, 0);
+        needs(due, "Wa:U1[2];Ib:U1[2];Ic:U1;a<=b;?c{a<=b;}", 20, 24, 0, 0, 0);
     }
 
     private static void registers(Due due) {

@@ -54,6 +54,12 @@ public final class SignalTest {
     private static void widthsFound(Due due) {
         LowForge forge = due.compiled("Ia:U3;Wb:U;Wc:U;Wd:U2;c<=b;b<=a;d<=a;");
         rows(due, forge, 1, 3, 3, 3, 2);
+        forge = due.compiled("Ia:U3;Wb:U;Wc:U;Wd:U;d<=c;c<=b;b<=a;b<=1;");
+        rows(due, forge, 1, 3, 3, 3, 3);
+        forge = due.compiled("Ia:U3;Wb:U;Nc=b;Wd:U;Ne=1;d<=c;b<=a;b<=1;");
+        rows(due, forge, 1, 3, 3, 3, 3, 1);
+        forge = due.compiled("Ia:U1[2];Wb:U[2];Wc:U[2];c<=b;b<=a;c[0]<=7;c[1]<=0;");
+        rows(due, forge, 1, 1, 1, 1, 1, 3, 1);
         forge = due.compiled("Ia:U1;Wb:U;b<=9;?a{b<=64;b<=3;}:{?a{b<=1;}}b<=0;");
         rows(due, forge, 1, 1, 7);
         forge = due.compiled("Ia:U1;Wb:U;Nc=+(b,1);b<=#(a,a);");
