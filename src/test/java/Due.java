@@ -35,6 +35,36 @@ final class Due {
         }
     }
 
+    /** That a call throws so, and that the object tells behind it what it told before. */
+    void thrownAndNothingElse(String what, Class<? extends RuntimeException> want, LowForge forge,
+            Runnable call) {
+        String before = told(forge);
+        thrown(what, want, call);
+        same(what + ": nothing changes, not " + before, told(forge).equals(before) ? 1 : 0, 1);
+    }
+
+    /** What an object tells of its text, its latest compile and its circuit. */
+    static String told(LowForge forge) {
+        return "where " + forge.where() + " text " + forge.count(0) + toldOfCircuit(forge);
+    }
+
+    static String toldOfCircuit(LowForge forge) {
+        StringBuilder told = new StringBuilder();
+        for (int what = 1; what <= 5; what++) {
+            told.append(" count ").append(forge.count(what));
+        }
+        for (int k = 0; k < forge.count(1); k++) {
+            told.append(" signal");
+            for (int what = 0; what <= 3; what++) {
+                told.append(' ').append(forge.signal(k, what));
+            }
+            told.append(" depends ").append(forge.depends(k));
+            told.append(" value ").append(forge.value(k));
+            told.append(" activity ").append(forge.activity(k));
+        }
+        return told.toString();
+    }
+
     /** A new object with that text compiled. */
     LowForge compiled(String text) {
         LowForge forge = new LowForge();
