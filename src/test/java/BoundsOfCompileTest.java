@@ -182,18 +182,22 @@ public final class BoundsOfCompileTest {
             "Ia:{a:U16};Wb:U;Nc=M(!(a.a),#(7,7),T(a.a,3,1));b<=c;?c{b<=1;?b{}}",
             "Ra:U1[4][3][2];?1{?1{?1{a<=a;}:{a[0]<=a[1];}}}", "Oa:{b~:U4};Nb=a.b;Wc:U;c<=b;",
             "Ra:U16;Nb=+(a,1);", "Wb:U1;Ra:U;a<=7;b<=b;", "Ia:U1;Wb:{x:U1};", "Ra:U;?a{a<=a;}",
-            "Na=+(1,!(2));Ob:U2;?a{b<=a;}:{b<=3;}", "b<=1;", "Ia:U1;?a{?a{?a{}}}", "Ia:U1;?a{@"};
+            "Na=+(1,!(2));Ob:U2;?a{b<=a;}:{b<=3;}", "b<=1;", "Ia:U1;?a{?a{?a{}}}", "Ia:U1;?a{@",
+            "Ia:U16;Nb=!(a);", "Ia:U1;Nb=65535;Wc:U1;", "Ia:U1[2];"};
         String[] alone = new String[texts.length];
         for (int i = 0; i < texts.length; i++) {
             alone[i] = outcome(new LowForge(), texts[i]);
         }
-        for (int i = 0; i < texts.length; i++) {
-            for (int j = 0; j < texts.length; j++) {
-                LowForge forge = new LowForge();
-                outcome(forge, texts[i]);
-                String got = outcome(forge, texts[j]);
-                due.same(texts[j] + " behind " + texts[i] + ": " + got + ", due is " + alone[j],
-                        got.equals(alone[j]) ? 1 : 0, 1);
+        for (String first : texts) {
+            for (String second : texts) {
+                for (int i = 0; i < texts.length; i++) {
+                    LowForge forge = new LowForge();
+                    outcome(forge, first);
+                    outcome(forge, second);
+                    String got = outcome(forge, texts[i]);
+                    due.same(texts[i] + " behind " + first + " and " + second + ": " + got
+                            + ", due is " + alone[i], got.equals(alone[i]) ? 1 : 0, 1);
+                }
             }
         }
     }
