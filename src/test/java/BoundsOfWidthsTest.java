@@ -187,6 +187,9 @@ public final class BoundsOfWidthsTest {
         due.unresolved("Ra:U;Rb:U;a<=b;");
         due.unresolved("Ra:U;Rb:U;a<=b;b<=a;");
         due.unresolved("Ra:U;Rb:U;a<=!(b);b<=M(1,a,b);");
+        due.unresolved("Ra:U;Nb=a;a<=b;");
+        due.unresolved("Ra:U;Nb=#(a,a);Nc=!(b);a<=c;");
+        due.unresolved("Ra:U;Nb=a;");
         due.unresolved("Ra:U;Rb:U;Rc:U;a<=b;b<=c;c<=a;Rd:U;d<=1;");
         due.same("with another one, too", due.compiled("Ra:U;Rb:U;a<=b;b<=a;a<=1;").count(5), 2);
         due.same("a + is never 0 wide", due.compiled("Ra:U;Rb:U1;a<=+(b,b);").count(5), 3);
