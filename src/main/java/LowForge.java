@@ -372,7 +372,11 @@ public final class LowForge {
         }
 
         /** Whether both have the same fields and vectors, whatever their widths are. */
-        boolean alike(int one, int other, int depth) {
+        boolean alike(int one, int other) {
+            return typesAlike(one, other, 1);
+        }
+
+        private boolean typesAlike(int one, int other, int depth) {
             if (depth > TYPES_DEEP) {
                 return false;
             }
@@ -396,7 +400,7 @@ public final class LowForge {
             int b = firstOther;
             for (int i = 0; i < fields && a != NONE && b != NONE; i++) {
                 if (fieldName[a] != fieldName[b] || fieldFlips[a] != fieldFlips[b]
-                        || !alike(fieldType[a], fieldType[b], depth + 1)) {
+                        || !typesAlike(fieldType[a], fieldType[b], depth + 1)) {
                     return false;
                 }
                 a = nextField[a];
@@ -1107,7 +1111,7 @@ public final class LowForge {
             if (nodes.op[right] != REFERENCE) {
                 return isGround(left) && isGroundExpr(right);
             }
-            return lookUp(right) && types.alike(nodes.middle[left], nodes.middle[right], 1);
+            return lookUp(right) && types.alike(nodes.middle[left], nodes.middle[right]);
         }
 
         private boolean connectsSinks(Circuit circuit, int step) {
